@@ -709,7 +709,7 @@ public final class ExchangeFamilies {
     /** What is asked of MEMBERS alone, each SET being a bit of a long. */
     private static final class Family {
         static boolean holds(long members, int set) {
-            return (members >>> set & 1L) != 0;
+            return ((members >>> set) & 1L) != 0;
         }
 
         static long ofSizes(int least, int most, int n) {

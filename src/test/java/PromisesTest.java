@@ -269,7 +269,7 @@ public final class PromisesTest {
 
     private static void failing() {
         ExchangeFamilies x = told(4, 1, 2, 14);
-        // from 1 toward 14 points 0 and 1 are each other's PARTNER; by 2 there would be 5, 4, 7, 13, all of them no MEMBERS
+        // from 1 toward 14 points 0 and 1 are each other's PARTNER; by 2 there would be 4, 5, 7, 13: no MEMBERS
         due("14 x", x.fails(0, 0), 1);
         due("14 y", x.fails(0, 1), 14);
         due("14 u", x.fails(0, 2), 2);
