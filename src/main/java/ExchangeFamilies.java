@@ -502,13 +502,14 @@ public final class ExchangeFamilies {
         return bits == 0 ? NONE : Integer.bitCount((bits & -bits) - 1);
     }
 
-    /** The place of the highest bit of a number that is not below 0; NONE. */
+    /** The place of the highest of the bits 0 .. n that sizes can have; NONE. */
     private static int greatestBit(int bits) {
-        int place = NONE;
-        for (int left = bits; left > 0; left >>= 1) {
-            place++;
+        for (int place = MOST_POINTS; place >= 0; place--) {
+            if ((bits >> place & 1) != 0) {
+                return place;
+            }
         }
-        return place;
+        return NONE;
     }
 
     /** What AN IMAGE keeps: the points, the FAMILIES, the WEIGHTS and THE TABLE. */
@@ -1027,7 +1028,7 @@ public final class ExchangeFamilies {
         boolean areSprung() {
             boolean any = false;
             for (int some = 0; some < 1 << n; some++) {
-                any |= boths[some] != 0;
+                any = any || boths[some] != 0;
                 for (int both = 0; both <= some; both++) {
                     if ((both & ~some) == 0 && !holdsRow(some, both) && leavesOne(some, both)) {
                         return false;
