@@ -43,6 +43,20 @@ public final class ExchangeTest extends Promises {
         failsAt(told(6, 0, 1, 2, 4, 8, 16, 63), 0, 63, 5);
     }
 
+    static void promise14_onlyTheFirstPoint() {
+        // from 0 toward 7 points 1 and 2 have each other, 0 has none
+        failsAt(told(3, 0, 6, 7), 0, 7, 0);
+    }
+
+    static void promise14_eachFamily() {
+        for (int f = 0; f < 6; f++) {
+            ExchangeFamilies x = toldAt(f, 3, 1, 6);
+            due("x of " + f, x.fails(f, 0), 1);
+            due("y of " + f, x.fails(f, 1), 6);
+            due("u of " + f, x.fails(f, 2), 0);
+        }
+    }
+
     static void promise14_noneFails() {
         for (int n = 1; n <= 6; n++) {
             for (int what = 0; what < 3; what++) {
@@ -110,6 +124,12 @@ public final class ExchangeTest extends Promises {
         due("2 is of it", x.partner(0, 0, 12, 3), 2);
         tell(x, 0, 0, 9, 14);
         due("0 is not of it", x.partner(0, 0, 14, 3), NONE);
+    }
+
+    static void promise15_eachFamily() {
+        for (int f = 0; f < 6; f++) {
+            due("family " + f, toldAt(f, 3, 1, 4).partner(f, 1, 4, 0), 2);
+        }
     }
 
     static void promise15_none() {
@@ -187,6 +207,12 @@ public final class ExchangeTest extends Promises {
         }
     }
 
+    static void promise16_eachFamily() {
+        for (int f = 0; f < 6; f++) {
+            due("family " + f, toldAt(f, 3, 6).near(f, 0), 2);
+        }
+    }
+
     static void promise16_noMembersAndAllSets() {
         for (int n = 1; n <= 6; n++) {
             for (int set = 0; set < 1 << n; set++) {
@@ -247,6 +273,12 @@ public final class ExchangeTest extends Promises {
         due("all sets", allSets(6).apart(0, 0, 63), 3);
         due("five points", allSets(5).apart(0, 0, 31), 3);
         due("four points", allSets(4).apart(0, 15, 0), 2);
+    }
+
+    static void promise17_eachFamily() {
+        for (int f = 0; f < 6; f++) {
+            due("family " + f, toldAt(f, 4, 0, 1, 7).apart(f, 7, 0), 2);
+        }
     }
 
     static void promise17_aLongWay() {

@@ -208,6 +208,17 @@ public final class FamiliesTest extends Promises {
         members(x, 1);
     }
 
+    static void promise3_eachFamily() {
+        for (int f = 0; f < 6; f++) {
+            ExchangeFamilies x = toldAt(f, 3, 1, 6);
+            due("one of " + f, x.tell(f, 6, 0), 1);
+            members(x, f, 1);
+            x = over(3);
+            due("a missing one", x.tell(f, 6, 1), 0);
+            due("only that", x.count(1), 1 << f);
+        }
+    }
+
     static void promise3_othersStay() {
         ExchangeFamilies x = told(4, 1, 2, 4);
         x.tell(0, 2, 0);
@@ -280,6 +291,15 @@ public final class FamiliesTest extends Promises {
         members(x, 0, 63);
     }
 
+    static void promise4_eachFamily() {
+        for (int f = 0; f < 6; f++) {
+            ExchangeFamilies x = over(3);
+            due("family " + f, x.sized(f, 2, 2), 3);
+            members(x, f, 3, 5, 6);
+            due("only that", x.count(1), 1 << f);
+        }
+    }
+
     static void promise4_sizedThen() {
         ExchangeFamilies x = told(3, 0, 1, 7);
         due(x.sized(0, 1, 1), 3);
@@ -344,6 +364,16 @@ public final class FamiliesTest extends Promises {
         due("the greatest", x.of(0, 7), 6);
     }
 
+    static void promise5_eachFamily() {
+        for (int f = 0; f < 6; f++) {
+            ExchangeFamilies x = over(3);
+            x.entry(1, 2, 1);
+            due("family " + f, x.tabled(f), 2);
+            members(x, f, 0, 6);
+            due("only that", x.count(1), 1 << f);
+        }
+    }
+
     static void promise5_tabledThen() {
         ExchangeFamilies x = told(4, 1, 2);
         x.tabled(0);
@@ -405,6 +435,16 @@ public final class FamiliesTest extends Promises {
         due("kind", x.of(0, 0), 3);
     }
 
+    static void promise6_eachToEach() {
+        for (int f = 0; f < 6; f++) {
+            for (int to = 0; to < 6; to++) {
+                ExchangeFamilies x = toldAt(f, 3, 1, 6);
+                due(f + " to " + to, x.twist(f, 1, to), 2);
+                members(x, to, 0, 7);
+            }
+        }
+    }
+
     static void promise6_noMembersAndAllSets() {
         ExchangeFamilies x = allSets(6);
         tell(x, 1);
@@ -464,6 +504,16 @@ public final class FamiliesTest extends Promises {
         due("kind", x.of(0, 0), 5);
     }
 
+    static void promise7_eachToEach() {
+        for (int f = 0; f < 6; f++) {
+            for (int to = 0; to < 6; to++) {
+                ExchangeFamilies x = toldAt(f, 3, 1, 5);
+                due(f + " to " + to, x.dual(f, to), 2);
+                members(x, to, 2, 6);
+            }
+        }
+    }
+
     static void promise7_noMembersAndAllSets() {
         ExchangeFamilies x = allSets(6);
         tell(x, 1);
@@ -508,6 +558,14 @@ public final class FamiliesTest extends Promises {
         members(x, 1, 0, 1, 5);
     }
 
+    static void promise8_leftOutWhereAllHaveEachPoint() {
+        for (int point = 0; point < 6; point++) {
+            ExchangeFamilies x = told(6, 1 << point, 63);
+            due("point " + point, x.reduce(0, point, 0, 1), 2);
+            members(x, 1, 0, 63 - (1 << point));
+        }
+    }
+
     static void promise8_leftOutWhereNoneHasIt() {
         ExchangeFamilies x = told(3, 0, 1, 5);
         due("all", x.reduce(0, 1, 0, 1), 3);
@@ -544,6 +602,16 @@ public final class FamiliesTest extends Promises {
                 due("point " + point + ", way " + way, x.reduce(0, point, way, 0), 32);
                 due("none has it", x.of(0, 4), 1 << point);
                 due("the greatest", x.member(0, 31), 63 - (1 << point));
+            }
+        }
+    }
+
+    static void promise8_eachToEach() {
+        for (int f = 0; f < 6; f++) {
+            for (int to = 0; to < 6; to++) {
+                ExchangeFamilies x = toldAt(f, 3, 1, 3, 6);
+                due(f + " to " + to, x.reduce(f, 1, 1, to), 2);
+                members(x, to, 1, 4);
             }
         }
     }
@@ -605,6 +673,14 @@ public final class FamiliesTest extends Promises {
         due("none is left", x.count(1), 0);
     }
 
+    static void promise9_eachFamily() {
+        for (int f = 0; f < 6; f++) {
+            ExchangeFamilies x = toldAt(f, 3, 1, 6);
+            due("family " + f, x.clear(f), 2);
+            due("the others", x.count(1), 63 - (1 << f));
+        }
+    }
+
     static void promise9_missingThen() {
         ExchangeFamilies x = told(3, 1, 2);
         x.clear(0);
@@ -640,6 +716,15 @@ public final class FamiliesTest extends Promises {
             for (int set = 0; set < 1 << n; set++) {
                 due("all have " + set, x.has(0, set), 1);
                 due("none has " + set, x.has(1, set), 0);
+            }
+        }
+    }
+
+    static void promise10_eachFamily() {
+        for (int f = 0; f < 6; f++) {
+            ExchangeFamilies x = toldAt(f, 3, 6);
+            for (int other = 0; other < 6; other++) {
+                due("family " + other, x.has(other, 6), other == f ? 1 : 0);
             }
         }
     }
@@ -692,6 +777,14 @@ public final class FamiliesTest extends Promises {
         ExchangeFamilies x = allSets(6);
         for (int k = 0; k < 64; k++) {
             due("member " + k, x.member(0, k), k);
+        }
+    }
+
+    static void promise11_eachFamily() {
+        for (int f = 0; f < 6; f++) {
+            ExchangeFamilies x = toldAt(f, 3, 1, 6);
+            due("family " + f, x.member(f, 1), 6);
+            due("how many of " + f, x.member(f, -1), 2);
         }
     }
 
@@ -817,6 +910,16 @@ public final class FamiliesTest extends Promises {
         ExchangeFamilies x = told(6, 1, 30, 63);
         due("least", x.of(0, 6), 1);
         due("greatest", x.of(0, 7), 6);
+    }
+
+    static void promise12_eachFamily() {
+        int[] want = {0, 1, 1, 1, 1, 2, 2, 2};
+        for (int f = 0; f < 6; f++) {
+            ExchangeFamilies x = toldAt(f, 4, 6, 10);
+            for (int what = 0; what < 8; what++) {
+                due("of " + f + ", " + what, x.of(f, what), want[what]);
+            }
+        }
     }
 
     static void promise12_changesNothing() {

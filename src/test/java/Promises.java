@@ -132,6 +132,16 @@ abstract class Promises {
         return x;
     }
 
+    /** Family f has these sets; all others are there, with no members. */
+    static ExchangeFamilies toldAt(int f, int n, int... sets) {
+        ExchangeFamilies x = over(n);
+        for (int other = 0; other < 6; other++) {
+            tell(x, other);
+        }
+        tell(x, f, sets);
+        return x;
+    }
+
     static void fill(ExchangeFamilies x, int row, int sort, long... values) {
         x.row(row, sort, values.length);
         for (int i = 0; i < values.length; i++) {

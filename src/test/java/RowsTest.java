@@ -145,6 +145,19 @@ public final class RowsTest extends Promises {
         numbers(x, 2, want);
     }
 
+    static void promise30_eachRow() {
+        for (int row = 0; row < 4; row++) {
+            ExchangeFamilies x = new ExchangeFamilies();
+            for (int other = 0; other < 4; other++) {
+                x.row(other, 1, 2);
+            }
+            due("row " + row, x.put(row, 1, 9), 1);
+            for (int other = 0; other < 4; other++) {
+                numbers(x, other, 0, other == row ? 9 : 0);
+            }
+        }
+    }
+
     static void promise30_placeOutside() {
         for (int i : around(0, 2)) {
             changesNothing("place " + i, OUTSIDE, x -> x.put(0, i, 1));
@@ -272,6 +285,21 @@ public final class RowsTest extends Promises {
         }
     }
 
+    static void promise32_eachToEach() {
+        for (int row = 0; row < 4; row++) {
+            for (int other = 0; other < 4; other++) {
+                ExchangeFamilies x = new ExchangeFamilies();
+                for (int at = 0; at < 4; at++) {
+                    fill(x, at, 1, at + 1, 0);
+                }
+                due(row + " to " + other, x.copy(row, 0, other, 1, 1), 1);
+                for (int at = 0; at < 4; at++) {
+                    numbers(x, at, at + 1, at == other ? row + 1 : 0);
+                }
+            }
+        }
+    }
+
     static void promise32_noNumbers() {
         copyRefused("at the beginnings", 0, x -> x.copy(0, 0, 1, 0, 0));
         copyRefused("inside", 0, x -> x.copy(0, 2, 1, 2, 0));
@@ -394,6 +422,18 @@ public final class RowsTest extends Promises {
         }
     }
 
+    static void promise33_eachOfEach() {
+        for (int f = 0; f < 6; f++) {
+            for (int row = 0; row < 4; row++) {
+                ExchangeFamilies x = over(4);
+                fill(x, row, 2, 6, 9);
+                due(f + " of " + row, x.lay(f, row), 2);
+                members(x, f, 6, 9);
+                due("only that", x.count(1), 1 << f);
+            }
+        }
+    }
+
     static void promise33_rowOfNone() {
         ExchangeFamilies x = busy();
         due("none", x.lay(0, 2), 0);
@@ -491,6 +531,17 @@ public final class RowsTest extends Promises {
                 want[i] = i;
             }
             numbers(x, 0, want);
+        }
+    }
+
+    static void promise34_eachToEach() {
+        for (int f = 0; f < 6; f++) {
+            for (int row = 0; row < 4; row++) {
+                ExchangeFamilies x = toldAt(f, 4, 6, 9);
+                due(f + " to " + row, x.film(f, row, 2), 2);
+                numbers(x, row, 6, 9);
+                due("only that", x.count(2), 1 << row);
+            }
         }
     }
 

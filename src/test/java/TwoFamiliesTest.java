@@ -99,6 +99,39 @@ public final class TwoFamiliesTest extends Promises {
         due("three points apart, twice", told(3, 0, 7).jumps(0, 0, 1), 0);
     }
 
+    static void promise26_onlyTowardTheLeastOrTheGreatest() {
+        // 1 1 1 toward 0 0 0 by point 0 is the only step that ends
+        due("the least", two(3, sets(0, 3, 5, 7), 0).jumps(0, 1, 1), 0);
+        // 1 1 1 toward 2 2 2 by point 0 is the only one
+        due("the greatest", two(3, sets(0, 2, 4, 7), 7).jumps(0, 1, 1), 0);
+        // 1 1 2, 2 0 1, 2 0 2: each way ends
+        due("up and down", two(3, sets(1, 5, 6), 5).jumps(0, 1, 1), 0);
+    }
+
+    static void promise26_othersBeforeLeaveNothing() {
+        ExchangeFamilies x = allSets(6);
+        tell(x, 1, 5);
+        tell(x, 2);
+        due("all", x.jumps(0, 0, 0), 729);
+        due("one", x.jumps(1, 1, 0), 1);
+        due("the least", x.jumps(1, 1, 2), 20);
+        due("the greatest", x.jumps(1, 1, 3), 20);
+        due("all are sprung", x.jumps(0, 0, 1), 1);
+        due("none is not", x.jumps(2, 0, 1), 0);
+        due("none is the greatest", x.jumps(0, 2, 3), NONE);
+    }
+
+    static void promise26_eachWithEach() {
+        for (int f = 0; f < 6; f++) {
+            for (int g = 0; g < 6; g++) {
+                ExchangeFamilies x = toldAt(f, 3, 1, 4);
+                due(f + " with " + g, x.jumps(f, g, 0), f == g ? 3 : 0);
+                tell(x, g, 2);
+                due(f + " with " + g + " of one", x.jumps(f, g, 3), f == g ? 6 : 12);
+            }
+        }
+    }
+
     static void promise26_sprungAsItsWordsSay() {
         Random random = new Random(26);
         for (int run = 0; run < 200; run++) {
@@ -219,6 +252,25 @@ public final class TwoFamiliesTest extends Promises {
         }
     }
 
+    static void promise27_eachWithEach() {
+        for (int f = 0; f < 6; f++) {
+            for (int g = 0; g < 6; g++) {
+                ExchangeFamilies x = toldAt(f, 3, 1);
+                tell(x, g, 2);
+                due(f + " with " + g, x.jump(f, g, 4), f == g ? 0 : 1);
+                due("2 of one", x.jump(f, g, 6), f == g ? 1 : 0);
+            }
+        }
+    }
+
+    static void promise27_othersBeforeLeaveNothing() {
+        ExchangeFamilies x = allSets(6);
+        tell(x, 1, 5);
+        due("all", x.jump(0, 0, 19), 1);
+        due("one", x.jump(1, 1, 20), 1);
+        due("not", x.jump(1, 1, 19), 0);
+    }
+
     static void promise27_rowIsNone() {
         for (int row : new int[] {-1, 243, LEAST, MOST, 728, 729}) {
             changesNothing("row " + row, BAD, x -> x.jump(0, 1, row));
@@ -335,6 +387,18 @@ public final class TwoFamiliesTest extends Promises {
             due("not the same", x.same(0, 1, 0), 0);
             due("no twist", x.same(0, 1, 1), NONE);
             due("not alike", x.same(0, 1, 2), 0);
+        }
+    }
+
+    static void promise28_eachWithEach() {
+        for (int f = 0; f < 6; f++) {
+            for (int g = 0; g < 6; g++) {
+                ExchangeFamilies x = toldAt(f, 3, 1);
+                tell(x, g, 4);
+                due(f + " and " + g, x.same(f, g, 0), f == g ? 1 : 0);
+                due(f + " and " + g + ", twisted", x.same(f, g, 1), f == g ? 0 : 5);
+                due(f + " and " + g + ", alike", x.same(f, g, 2), 1);
+            }
         }
     }
 

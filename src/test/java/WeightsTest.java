@@ -143,6 +143,12 @@ public final class WeightsTest extends Promises {
         due("all sets, all below", greedOf(allSets(6), -1, -2, -3, -4, -5, -6), 0);
     }
 
+    static void promise20_eachFamily() {
+        for (int f = 0; f < 6; f++) {
+            due("family " + f, toldAt(f, 3, 1, 6).greed(f), 1);
+        }
+    }
+
     static void promise20_familyIsNone() {
         for (int f : notFamilies()) {
             changesNothing("greed " + f, BAD, x -> x.greed(f));
@@ -183,6 +189,12 @@ public final class WeightsTest extends Promises {
         due("all sets, all 0", bestOf(allSets(6), 0, 0, 0, 0, 0, 0), 0);
         due("all sets", bestOf(allSets(6), 5, -5, 0, -1, 99, -99), 1 + 16);
         due("all sets, all above", bestOf(allSets(6), 99, 99, 99, 99, 99, 99), 63);
+    }
+
+    static void promise21_eachFamily() {
+        for (int f = 0; f < 6; f++) {
+            due("family " + f, toldAt(f, 3, 1, 6).best(f), 1);
+        }
     }
 
     static void promise21_familyIsNone() {
