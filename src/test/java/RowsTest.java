@@ -125,8 +125,8 @@ public final class RowsTest extends Promises {
     }
 
     static void promise30_ints() {
-        putAndGet(2, 0, 0, MOST, MOST, MOST + 1L, LEAST, LEAST, LEAST, LEAST - 1L, MOST, (1L << 32) - 1, -1, 1L << 32, 0,
-            (1L << 32) + 5, 5, 65539, 65539, -1, -1, Long.MAX_VALUE, -1, Long.MIN_VALUE, 0);
+        putAndGet(2, 0, 0, MOST, MOST, MOST + 1L, LEAST, LEAST, LEAST, LEAST - 1L, MOST, (1L << 32) - 1, -1,
+            1L << 32, 0, (1L << 32) + 5, 5, 65539, 65539, -1, -1, Long.MAX_VALUE, -1, Long.MIN_VALUE, 0);
     }
 
     static void promise30_longs() {
