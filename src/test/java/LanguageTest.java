@@ -6,6 +6,7 @@ import java.lang.reflect.Modifier;
 import java.nio.file.Files;
 import java.nio.file.Path;
 import java.util.Arrays;
+import java.util.Map;
 import java.util.Set;
 import java.util.TreeSet;
 import java.util.regex.Matcher;
@@ -27,8 +28,13 @@ public final class LanguageTest {
     private static final String[] FORBIDDEN = {
         "\\b(throw|throws|try|catch|synchronized|assert|volatile|native|package|protected)\\b", "->", "::",
         "\\w+Exact\\b", "\\b(equals|hashCode|toString)\\b", "\\b(Random|System\\.(?!arraycopy)\\w+)",
+        "\\bArrays\\.(?!(copyOf|copyOfRange|fill)\\b)",
         "import (?!java\\.util\\.(Arrays|ArrayList|List);)", "\"[^\"]*\"\\s*\\+", "\\bstatic\\s*\\{", "[^\\x00-\\x7f]"
     };
+    private static final Map<String, Object> CONSTANTS =
+        Map.of("NONE", -1, "BAD", -2, "STATE", -3, "NO", Long.MIN_VALUE);
+    private static final Set<Class<?>> STATIC_TYPES = Set.of(int.class, long.class, boolean.class, char.class,
+        String.class, int[].class, long[].class, char[].class, byte[].class);
     private static int wrong = 0;
 
     private static void check(boolean holds, String what) {
@@ -78,20 +84,51 @@ public final class LanguageTest {
             check(open || !outer || Modifier.isPrivate(m.getModifiers()), m + " can be seen");
             check(m.getParameterCount() <= 7, m + " has too many parameters");
         }
-        Set<String> constants = Set.of("NONE", "BAD", "STATE", "NO");
         int own = 0;
         for (Field f : type.getDeclaredFields()) {
-            boolean open = outer && constants.contains(f.getName());
+            boolean open = outer && CONSTANTS.containsKey(f.getName());
             check(open == Modifier.isPublic(f.getModifiers()), f + " is seen otherwise than told");
             check(open || !outer || Modifier.isPrivate(f.getModifiers()), f + " can be seen");
-            check(!Modifier.isStatic(f.getModifiers()) || Modifier.isFinal(f.getModifiers()), f + " is not final");
-            own += Modifier.isStatic(f.getModifiers()) ? 0 : 1;
+            boolean fixed = Modifier.isStatic(f.getModifiers());
+            check(!fixed || Modifier.isFinal(f.getModifiers()), f + " is not final");
+            check(!fixed || STATIC_TYPES.contains(f.getType()), f + " is of a type that no static field may have");
+            own += fixed ? 0 : 1;
         }
         check(own <= 20, type + " has too many fields");
     }
 
+    private static void constants() throws ReflectiveOperationException {
+        for (Map.Entry<String, Object> constant : CONSTANTS.entrySet()) {
+            Field f = ExchangeFamilies.class.getField(constant.getKey());
+            check(Modifier.isStatic(f.getModifiers()), f + " is not static");
+            // An int is no Long here: the types are compared with the numbers.
+            check(constant.getValue().equals(f.get(null)), f + " is not as told");
+        }
+    }
+
+    /** Rule 11: some sixty lines; a method ends where its closing bracket stands under its first sign. */
+    private static void lengths(String text) {
+        String[] lines = text.split("\n");
+        Pattern head = Pattern.compile("^( +)(?!(if|for|while|switch|else|do|return)\\b)[\\w\\[\\]]+.*\\) \\{$");
+        int methods = 0;
+        for (int i = 0; i < lines.length; i++) {
+            Matcher m = head.matcher(lines[i]);
+            if (!m.matches()) {
+                continue;
+            }
+            int end = i;
+            while (end < lines.length && !lines[end].equals(m.group(1) + "}")) {
+                end++;
+            }
+            check(end - i < 60, "a long method: " + lines[i]);
+            methods++;
+        }
+        check(methods > FACE.length, "only " + methods + " methods were found");
+    }
+
     private static void words() throws IOException {
         String text = Files.readString(Path.of("src/main/java/ExchangeFamilies.java"));
+        lengths(text);
         String code = text.replaceAll("(?s)/\\*.*?\\*/", "").replaceAll("//[^\n]*", "");
         for (String pattern : FORBIDDEN) {
             Matcher m = Pattern.compile(pattern).matcher(code);
@@ -99,8 +136,9 @@ public final class LanguageTest {
         }
     }
 
-    public static void main(String[] args) throws IOException {
+    public static void main(String[] args) throws IOException, ReflectiveOperationException {
         face();
+        constants();
         words();
         System.out.println(wrong == 0 ? "the face and the words are as told" : wrong + " faults");
         if (wrong != 0) {
